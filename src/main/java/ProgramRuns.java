@@ -9,6 +9,8 @@ public final class ProgramRuns {
     private static final int MOST_BYTES = 8000;
     private static final int MOST_NAME_BYTES = 30;
     private static final int MOST_DIGITS = 10;
+    private static final long LEAST_INT = -2147483648L;
+    private static final long GREATEST_INT = 2147483647L;
     private static final int MOST_DEEP = 60;
     private static final int MOST_NUMBERS = 12;
     private static final int MOST_ARRAYS = 6;
@@ -301,7 +303,8 @@ public final class ProgramRuns {
             int size = valueAt(one);
             int place = placeAt(one);
             int otherPlace = placeAt(other);
-            boolean same = size == valueAt(other) && place + size <= text.length && otherPlace + size <= text.length;
+            boolean same = size == valueAt(other)
+                    && place + size <= text.length && otherPlace + size <= text.length;
             for (int i = 0; i < size && same; i++) {
                 same = text[place + i] == text[otherPlace + i];
             }
@@ -360,7 +363,7 @@ public final class ProgramRuns {
                 size++;
             }
             boolean zeroInFront = size > 1 && byteAt(at) == '0';
-            if (size > MOST_DIGITS || zeroInFront || number > Integer.MAX_VALUE || isInName(byteAt(at + size))) {
+            if (size > MOST_DIGITS || zeroInFront || number > GREATEST_INT || isInName(byteAt(at + size))) {
                 return 0;
             }
             add(NUMBER, at, (int) number);
@@ -796,7 +799,8 @@ public final class ProgramRuns {
                     read = readCall(s, depth) && take(SEMICOLON);
                     break;
                 case ASSERT_STATEMENT:
-                    read = take(ASSERT) && take(OPEN) && readCond(depth + 1) && take(CLOSE) && take(SEMICOLON);
+                    read = take(ASSERT) && take(OPEN) && readCond(depth + 1)
+                            && take(CLOSE) && take(SEMICOLON);
                     break;
                 case RETURN_STATEMENT:
                     read = take(RETURN) && readSum(depth + 1) && take(SEMICOLON);
@@ -857,7 +861,7 @@ public final class ProgramRuns {
             if (take(OPEN_PLACE)) {
                 return take(NUMBER) && take(CLOSE_PLACE);
             }
-            return !take(BECOMES) || !standsAtCall() && readSum(depth + 1);
+            return !take(BECOMES) || readSum(depth + 1);
         }
 
         private boolean readSetPlace(int depth) {
@@ -866,19 +870,7 @@ public final class ProgramRuns {
                 return false;
             }
             program.addOperation(LOOK_AT_PLACE, NONE);
-            return take(BECOMES) && !standsAtCall() && readSum(depth + 1);
-        }
-
-        /**
-         * A NAME with ( behind it begins no SUM behind =, by the document's word: even where a
-         * SUM would be too deep, the fault is not the NAME but the ( to which this goes on.
-         */
-        private boolean standsAtCall() {
-            if (!isCallAt(at)) {
-                return false;
-            }
-            at++;
-            return true;
+            return take(BECOMES) && readSum(depth + 1);
         }
 
         private boolean readCall(int s, int depth) {
@@ -1332,7 +1324,9 @@ public final class ProgramRuns {
                 int s = takeStatement();
                 if (s == NONE) {
                     endBlock();
-                } else if (!layStatement(s)) {
+                } else if (holds(s)) {
+                    layStatement(s);
+                } else {
                     return false;
                 }
             }
@@ -1416,28 +1410,13 @@ public final class ProgramRuns {
             foreignArrays = inCall ? points.arraysAt(p) : points.foreignArraysAt(p);
         }
 
-        private boolean layStatement(int s) {
-            int kind = program.kindOf(s);
+        private void layStatement(int s) {
             int first = program.firstTokenOf(s);
-            // The end needs a point, too.
-            if (points.count() + 2 > MOST_POINTS) {
-                return isWrong(TOO_MANY_POINTS, first);
-            }
-            called = NONE;
-            findForeign();
-            if (!holds(s, kind, first)) {
-                return false;
-            }
-            int p = points.add(kind, tokens.placeAt(first), s);
+            int p = points.add(program.kindOf(s), tokens.placeAt(first), s);
             points.setParent(p, parent(), isLast(s));
             points.setThere(p, scope.numbers(), scope.arrays());
             points.setForeign(p, foreignNumbers, foreignArrays);
-            goBehind(p, s, kind, first);
-            return true;
-        }
-
-        private void goBehind(int p, int s, int kind, int first) {
-            switch (kind) {
+            switch (program.kindOf(s)) {
                 case VAR_STATEMENT:
                     scope.add(first + 1, tokens.kindAt(first + 2) == OPEN_PLACE);
                     break;
@@ -1448,20 +1427,32 @@ public final class ProgramRuns {
                     openBlock(p, function(), s + 1, program.behind(s), program.behind(s));
                     break;
                 case CALL_STATEMENT:
-                    if (tokens.kindAt(first + 1) == BECOMES) {
-                        points.setTarget(p, foreignNumbers + program.slotOf(first));
-                    }
-                    for (int i = 0; i < program.parametersOf(called); i++) {
-                        scope.add(program.parameterToken(called, i), false);
-                    }
-                    openFunction(called, p);
+                    layCall(p, first);
                     break;
                 default:
                     break;
             }
         }
 
-        private boolean holds(int s, int kind, int first) {
+        private void layCall(int p, int first) {
+            if (tokens.kindAt(first + 1) == BECOMES) {
+                points.setTarget(p, foreignNumbers + program.slotOf(first));
+            }
+            for (int i = 0; i < program.parametersOf(called); i++) {
+                scope.add(program.parameterToken(called, i), false);
+            }
+            openFunction(called, p);
+        }
+
+        private boolean holds(int s) {
+            int kind = program.kindOf(s);
+            int first = program.firstTokenOf(s);
+            // The end needs a point, too.
+            if (points.count() + 2 > MOST_POINTS) {
+                return isWrong(TOO_MANY_POINTS, first);
+            }
+            called = NONE;
+            findForeign();
             if (kind == RETURN_STATEMENT && !returnHolds(s, first)) {
                 return false;
             }
@@ -1768,7 +1759,7 @@ public final class ProgramRuns {
         }
 
         private void pushIfInt(long x) {
-            if (x < Integer.MIN_VALUE || x > Integer.MAX_VALUE) {
+            if (x < LEAST_INT || x > GREATEST_INT) {
                 trap = NO_INT;
             } else {
                 push((int) x);

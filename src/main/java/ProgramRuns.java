@@ -80,6 +80,12 @@ public final class ProgramRuns {
     private static final int ASSERT = 9;
     private static final int RETURN = 10;
     private static final int ANY = 11;
+    // The words in the order of their kinds; in a row, as no text is to be made for a NAME.
+    private static final char[] WORDS = {
+        'f', 'u', 'n', ' ', 'v', 'a', 'r', ' ', 'i', 'f', ' ', 'e', 'l', 's', 'e', ' ',
+        'w', 'h', 'i', 'l', 'e', ' ', 'a', 's', 's', 'e', 'r', 't', ' ',
+        'r', 'e', 't', 'u', 'r', 'n', ' ', 'a', 'n', 'y', ' ',
+    };
     private static final int OPEN = 12;
     private static final int CLOSE = 13;
     private static final int OPEN_BLOCK = 14;
@@ -383,40 +389,22 @@ public final class ProgramRuns {
         }
 
         private int wordOrName(int at, int size) {
-            if (spells("fun", at, size)) {
-                return FUN;
-            }
-            if (spells("var", at, size)) {
-                return VAR;
-            }
-            if (spells("if", at, size)) {
-                return IF;
-            }
-            if (spells("else", at, size)) {
-                return ELSE;
-            }
-            if (spells("while", at, size)) {
-                return WHILE;
-            }
-            if (spells("assert", at, size)) {
-                return ASSERT;
-            }
-            if (spells("return", at, size)) {
-                return RETURN;
-            }
-            return spells("any", at, size) ? ANY : NAME;
-        }
-
-        private boolean spells(String word, int at, int size) {
-            if (size != word.length()) {
-                return false;
-            }
-            for (int i = 0; i < word.length(); i++) {
-                if (byteAt(at + i) != word.charAt(i)) {
-                    return false;
+            int kind = FUN;
+            int alike = 0;
+            for (int i = 0; i < WORDS.length; i++) {
+                if (WORDS[i] == ' ') {
+                    if (alike == size) {
+                        return kind;
+                    }
+                    kind++;
+                    alike = 0;
+                } else if (alike >= 0 && alike < size && byteAt(at + alike) == WORDS[i]) {
+                    alike++;
+                } else {
+                    alike = NONE;
                 }
             }
-            return true;
+            return NAME;
         }
 
         private int readSign(int at) {

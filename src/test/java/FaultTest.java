@@ -52,6 +52,11 @@ public final class FaultTest {
         CHECK.fault("fun @" + longest + "x(){}");
         inBlock("var @" + longest + "_;");
         CHECK.right("fun fun1(){var var_;var If;var any0;any0=If+var_;}");
+        for (String word : new String[] {"fun", "var", "if", "else", "while", "assert", "return", "any"}) {
+            inBlock("var @" + word + ";");
+            CHECK.right("fun m(){var " + word + word + ";var " + word.substring(1) + "_;var _" + word + ";}");
+            CHECK.right("fun m(){var " + word.substring(0, word.length() - 1) + ";var " + word + "s;var " + word.substring(1) + ";}");
+        }
         CHECK.fault("fun @fun(){}");
         CHECK.fault("fun @any(){}");
         CHECK.fault("fun m(@if){}");

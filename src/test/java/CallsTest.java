@@ -8,6 +8,8 @@ public final class CallsTest {
         feeding();
         ending();
         endingAgain();
+        bytesBehindTheText();
+        textsOnOneObject();
         telling();
         inputs();
         refusedRuns();
@@ -107,6 +109,40 @@ public final class CallsTest {
         CHECK.due("next of the end", x.point(0, 4), 0);
         CHECK.due("run with that", x.run(0), 0);
         CHECK.due("inputs stay", x.drop(), 1);
+    }
+
+    private static void bytesBehindTheText() {
+        String[] texts = {"fun m(){}/", "fun m(){x=12", "fun m(){x=1", "fun m(){assert(1<", "fun m(){}f"};
+        String[] behind = {"/ a remark", "a", "0", "=2);}", "un f(){}"};
+        int[] faults = {9, 12, 11, 17, 9};
+        for (int i = 0; i < texts.length; i++) {
+            ProgramRuns x = new ProgramRuns();
+            Check.feed(x, (texts[i] + behind[i]).getBytes());
+            CHECK.due("end of " + texts[i], x.end(texts[i].length()), 1);
+            CHECK.due("told(1) of " + texts[i], x.told(1), faults[i]);
+        }
+    }
+
+    /** Nothing of an older text is left, wherever it went wrong. */
+    private static void textsOnOneObject() {
+        ProgramRuns x = new ProgramRuns();
+        CHECK.due("a function", Check.end(x, "fun f(){}fun m(){f();}"), 0);
+        CHECK.due("it is not meant any more", Check.end(x, "fun m(){f();}"), 2);
+        CHECK.due("what is wrong", x.told(0), 4);
+        String numbers = "var a;var b;var c;var d;var e;var f;";
+        CHECK.due("wrong in the midst", Check.end(x, "fun f(a){if(1<2){" + numbers.substring(6) + "var t[2];x=1;}}fun m(){"
+                + numbers + "var t[2];while(1<2){f(1);}}"), 2);
+        CHECK.due("a NAME that means nothing", x.told(0), 1);
+        CHECK.due("no variable of it is left", Check.end(x, "fun m(){var x=a;}"), 2);
+        CHECK.due("so it means nothing", x.told(0), 1);
+        CHECK.due("wrong again", Check.end(x, "fun f(a){if(1<2){" + numbers.substring(6) + "var t[2];x=1;}}fun m(){"
+                + numbers + "var t[2];while(1<2){f(1);}}"), 2);
+        CHECK.due("as many as there may be", Check.end(x, "fun m(){" + numbers + numbers.toUpperCase().replace("VAR", "var") + "}"), 0);
+        CHECK.due("points", x.points(), 13);
+        CHECK.due("numbers at the last var", x.point(11, 2), 11);
+        CHECK.due("a fault in the midst", Check.end(x, "fun f(){}fun g(){if(1<2){x=f(1,"), 1);
+        CHECK.due("a short one", Check.end(x, "fun m(){var x=5;assert(x==5&&!x<5);}"), 0);
+        CHECK.due("its run", x.run(2), 0);
     }
 
     private static void telling() {

@@ -157,6 +157,12 @@ public final class FaultTest {
         inBlock("x=1+f@();");
         inBlock("x=(f@());");
         inBlock("f(@,);");
+        inBlock("f(@;");
+        inBlock("f(1,@;");
+        inBlock("f(1@;");
+        inBlock("x=f(@;");
+        inBlock("t[@;");
+        inBlock("t[1]=@;");
         inBlock("f(1,@);");
         inBlock("f(1 @2);");
         inBlock("f()@");
@@ -178,6 +184,10 @@ public final class FaultTest {
     }
 
     private static void sums() {
+        inSum("1+@");
+        inSum("1-2*@");
+        inSum("-@");
+        inSum("(1@");
         inSum("@+1");
         inSum("1+@+1");
         inSum("1*@/1");
@@ -223,6 +233,11 @@ public final class FaultTest {
         inCond("!1@");
         inCond("!@");
         inCond("1<2&&@");
+        inCond("1<2||@");
+        inCond("1<2||!@");
+        inCond("[1<2||@]");
+        inCond("[@]");
+        inCond("1<1+@");
         inCond("1<2||@||1<2");
         inCond("1<2@,3<4");
         inCond("1<2 @!1<2");
@@ -291,6 +306,7 @@ public final class FaultTest {
         CHECK.fault("fun m(){var x=1+2*" + "-(".repeat(29) + "3+-@4*5" + ")".repeat(29) + ";}");
         CHECK.right("fun m(){var x=1+2*" + "-(".repeat(29) + "3-any(-1,1)" + ")".repeat(29) + ";}");
         CHECK.right("fun f(a){}fun m(){f(" + "(".repeat(58) + "1" + ")".repeat(58) + ");}");
+        CHECK.fault("fun f(a){}fun m(){f(" + "(".repeat(59) + "@1" + ")".repeat(59) + ");}");
         CHECK.fault("fun f(a){}fun m(){f(1," + "(".repeat(59) + "@1" + ")".repeat(59) + ");}");
         CHECK.fault("fun f(){return " + "(".repeat(59) + "@1" + ")".repeat(59) + ";}fun m(){}");
     }

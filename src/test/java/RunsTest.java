@@ -18,6 +18,7 @@ public final class RunsTest {
         loops();
         callsAndReturns();
         slots();
+        slotsOfOneFunction();
         arraysBeginAnew();
         beforeATrap();
         waitingValues();
@@ -120,6 +121,11 @@ public final class RunsTest {
         CHECK.due("value(0)", x.value(0), 0);
         CHECK.due("places: to the end", x.run(6), 0);
         CHECK.due("places are gone", x.place(0, 2), 0);
+        for (String statement : new String[] {"u[2]=1;", "t[u[2]]=1;", "t[0]=u[2]+t[2];"}) {
+            ProgramRuns two = CHECK.program("fun m(){var t[3];var u[2];t[2]=1;u[1]=1;" + statement + "}");
+            CHECK.due("the size of the other array: " + statement, two.run(9), 4);
+            CHECK.due("its point: " + statement, two.ran(0), 4);
+        }
         ProgramRuns last = CHECK.program("fun m(){var t[64];t[63]=5;t[0]=1;}");
         last.run(2);
         CHECK.due("place(0, 63)", last.place(0, 63), 5);
@@ -340,6 +346,27 @@ public final class RunsTest {
         CHECK.due("slots: to the end", x.run(2000), 0);
         x.run(x.ran(1) - 1);
         CHECK.due("slots: r, the last time", x.value(0), 5);
+    }
+
+    /** The same function, where other numbers and arrays are there when it is called. */
+    private static void slotsOfOneFunction() {
+        ProgramRuns x = CHECK.program("fun f(a){var t[2];var b=a;if(a<9){var u[2];u[0]=b+1;t[1]=u[0];}return t[1];}"
+                + "fun m(){var r;r=f(1);var s[2];s[0]=r;var q;q=f(r);if(1<2){var v[3];var w;v[2]=q;s[1]=q;w=f(v[2]);s[0]=w;}"
+                + "r=r;}");
+        CHECK.due("one function: to the end", x.run(2000), 0);
+        int steps = x.ran(1);
+        x.run(steps - 1);
+        CHECK.due("one function: r", x.value(0), 2);
+        CHECK.due("one function: q", x.value(1), 3);
+        CHECK.due("one function: s[0]", x.place(0, 0), 4);
+        CHECK.due("one function: s[1]", x.place(0, 1), 3);
+        x.run(steps - 2);
+        CHECK.due("one function: w", x.value(2), 4);
+        CHECK.due("one function: v[2]", x.place(1, 2), 3);
+        x.run(steps - 3);
+        CHECK.due("one function: its own array", x.place(2, 1), 4);
+        CHECK.due("one function: the array of its if is gone", x.place(3, 0), 0);
+        CHECK.due("one function: b", x.value(4), 3);
     }
 
     private static void arraysBeginAnew() {

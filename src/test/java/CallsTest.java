@@ -141,6 +141,17 @@ public final class CallsTest {
         CHECK.due("points", x.points(), 13);
         CHECK.due("numbers at the last var", x.point(11, 2), 11);
         CHECK.due("a fault in the midst", Check.end(x, "fun f(){}fun g(){if(1<2){x=f(1,"), 1);
+        CHECK.due("a function meant no more", Check.end(x, "fun f(){f();}"), 2);
+        CHECK.due("it is not meant in itself", x.told(0), 4);
+        CHECK.due("wrong with more behind it", Check.end(x, "fun m(){if(1<2){while(1<2){x=1;var a;}var b;}var c;}"), 2);
+        CHECK.due("numbers at all its points", Check.end(x, "fun m(){var a;var b;var c;}"), 0);
+        CHECK.due("points of three vars", x.points(), 4);
+        CHECK.due("the end where a var was", Check.end(x, "fun m(){var a;}"), 0);
+        CHECK.due("points of one var", x.points(), 2);
+        CHECK.due("numbers at the end", x.point(1, 2), 0);
+        CHECK.due("an array", Check.end(x, "fun m(){var a[2];var b[3];a[0]=b[0];}"), 0);
+        CHECK.due("a fault behind it", Check.end(x, "fun m(){"), 1);
+        CHECK.due("arrays at the end", x.point(0, 3), 0);
         CHECK.due("a short one", Check.end(x, "fun m(){var x=5;assert(x==5&&!x<5);}"), 0);
         CHECK.due("its run", x.run(2), 0);
     }

@@ -10,6 +10,7 @@ public final class LongTextsTest {
         names();
         parameters();
         remark();
+        twoOnOneObject();
         CHECK.close();
     }
 
@@ -57,6 +58,21 @@ public final class LongTextsTest {
         CHECK.wrong(10, "fun f(" + names + "){}fun m(){@f(" + sums + ");}");
         CHECK.wrong(2, "fun f(" + names + ",@a7){}fun m(){f(" + sums + ",1);}");
         CHECK.wrong(5, "fun f(" + names + "){}fun m(){@f(" + sums + ",1);}");
+    }
+
+    /** Together they have more statements, functions and operations than one text can have. */
+    private static void twoOnOneObject() {
+        String[][] pairs = {
+            {"fun f(){" + "f();".repeat(1700) + "}fun m(){}", "fun f(){" + "f();".repeat(600) + "}fun m(){}"},
+            {"fun f(){}".repeat(800), "fun f(){}".repeat(260)},
+            {"fun m(){var x=" + "1+".repeat(3500) + "1;}", "fun m(){var x=" + "1+".repeat(1200) + "1;assert(x==1201);}"},
+        };
+        for (String[] pair : pairs) {
+            ProgramRuns x = new ProgramRuns();
+            CHECK.due("the first long text", Check.end(x, pair[0]), 0);
+            CHECK.due("the second one", Check.end(x, pair[1]), 0);
+            CHECK.due("its run", x.run(9), 0);
+        }
     }
 
     private static void remark() {

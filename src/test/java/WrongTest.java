@@ -46,6 +46,8 @@ public final class WrongTest {
         right("var x;if(1<2){var x=x;x=1;}x=2;");
         right("var x=1;while(x<2){var y=x;if(y<3){x=y;}x=x+1;}");
         CHECK.wrong(1, "fun f(){@x=1;}fun m(){var x;f();}");
+        CHECK.wrong(1, "fun f(){@x=1;}fun m(){var t[2];var x;f();}");
+        CHECK.wrong(1, "fun f(){if(1<2){@x=1;}}fun m(){var x;var t[2];var u[2];f();}");
         CHECK.wrong(1, "fun f(a){var x;}fun m(){f(1);@a=1;}");
         CHECK.wrong(1, "fun f(a){}fun m(){f(@a);}");
         CHECK.wrong(1, "fun f(){return 1;}fun m(){@x=f();}");

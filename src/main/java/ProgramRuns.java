@@ -20,10 +20,11 @@ public final class ProgramRuns {
     private static final int MOST_STEPS = 2000;
     // Each byte may be a token, and the end of the text is one more.
     private static final int MOST_TOKENS = MOST_BYTES + 1;
-    // The shortest statements, such as f(); have four bytes.
-    private static final int MOST_STATEMENTS = MOST_BYTES / 4;
-    // The shortest functions, such as fun f(){} have nine bytes.
-    private static final int MOST_FUNCTIONS = MOST_BYTES / 9;
+    // The shortest statements, such as f(); have four bytes. One that is only begun has a place,
+    // too, so that a row that is full is never taken for a fault of the text.
+    private static final int MOST_STATEMENTS = MOST_BYTES / 4 + 1;
+    // The shortest functions, such as fun f(){} have nine bytes. One may be begun only, likewise.
+    private static final int MOST_FUNCTIONS = MOST_BYTES / 9 + 1;
     // A point is laid, a first BLOCK or another one is ended: at most three turns a point.
     private static final int MOST_TURNS = 4 * MOST_POINTS;
     // Each of 60 depths leaves at most three values waiting, and a call its first SUMs.
@@ -700,7 +701,7 @@ public final class ProgramRuns {
         boolean readText() {
             at = 0;
             program.clear();
-            for (int i = 0; i <= MOST_FUNCTIONS; i++) {
+            for (int i = 0; i < MOST_FUNCTIONS; i++) {
                 latestStatement = THE_END;
                 if (!readHead() || !readBlock(1)) {
                     return false;

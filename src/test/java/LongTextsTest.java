@@ -5,7 +5,9 @@ public final class LongTextsTest {
 
     public static void main(String[] args) {
         functions();
+        functionOnlyBegun();
         statements();
+        statementOnlyBegun();
         tokens();
         names();
         parameters();
@@ -19,6 +21,43 @@ public final class LongTextsTest {
         CHECK.right(most + " ".repeat(MOST - most.length()));
         CHECK.fault(most + "@f");
         CHECK.wrong(4, "fun f(){}".repeat(886) + "fun m(){@g();}");
+    }
+
+    /** Behind as many functions as there can be, one more can still be begun. */
+    private static void functionOnlyBegun() {
+        String most = "fun f(){}".repeat(888);
+        String[] tails = {
+            "@f", "@fu", "fun@", "fun @", "fun f@", "fun f(@", "fun f()@", "fun f(a@", "fun f(){@", "fun f(a)@",
+            "fun f(@,", "fun f(@{", "fun f()@}", "fun f()@)", "fun f(a@{", "fun @(){", "fun@\u0000f(){", "@}", "@fun_f(){",
+        };
+        for (String tail : tails) {
+            CHECK.fault(most + tail);
+        }
+        for (int functions = 880; functions <= 887; functions++) {
+            String fewer = "fun f(){}".repeat(functions);
+            CHECK.fault(fewer + "fun f(){@");
+            CHECK.fault(fewer + "fun f()@;");
+            CHECK.wrong(4, fewer + "fun m(){@g();}");
+            CHECK.right(fewer + "fun m(){f();}");
+        }
+    }
+
+    /** Behind as many statements as there can be, one more can still be begun, in BLOCKs, too. */
+    private static void statementOnlyBegun() {
+        String most = "fun m(){" + "f();".repeat(1997);
+        String[] tails = {
+            "f@", "f(@", "f()@", "f();@", "x=@", "x=y@", "x=y;@", "x[@", "x[y@", "var@", "if(@", "if@", "@any",
+            "f(@;", "f()@}", "x=y@]", "x[y@;", "var@;", "if(@)", "}@}", "}@f()", "}fun@", "}@var",
+        };
+        for (String tail : tails) {
+            CHECK.fault(most + tail);
+        }
+        String opened = "fun m(){" + "if(a<b){".repeat(29);
+        String inside = "f();".repeat((MOST - opened.length() - 4) / 4);
+        CHECK.fault(opened + inside + "x@");
+        CHECK.fault(opened + inside + "x=y@");
+        CHECK.fault(opened + inside + "f(@=");
+        CHECK.fault(opened + inside + "}}}}@");
     }
 
     private static void statements() {

@@ -1,8 +1,8 @@
 import java.util.Random;
 
 /**
- * Whatever the calls are, none throws, and refused ones answer NONE. The numbers come from a fixed
- * seed, so that each run of the test makes the same calls.
+ * Whatever the calls are, none throws. The numbers come from a fixed seed, so that each run of the
+ * test makes the same calls.
  */
 public final class AnyCallsTest {
     private static final String[] PIECES = {
@@ -21,20 +21,25 @@ public final class AnyCallsTest {
         Random random = new Random(20261115);
         for (int object = 0; object < 3000; object++) {
             ProgramRuns x = new ProgramRuns();
-            int called = 0;
-            try {
-                for (; called < 60; called++) {
-                    callSomething(x, random);
+            int calls = 0;
+            boolean thrown = false;
+            // What is asked at a time is at most 200 calls, and 512 are promised.
+            while (calls < 312 && !thrown) {
+                try {
+                    calls += callSomething(x, random);
+                } catch (RuntimeException | StackOverflowError e) {
+                    System.out.println(e);
+                    thrown = true;
                 }
-            } catch (RuntimeException | StackOverflowError thrown) {
-                System.out.println(thrown);
             }
-            check.due("calls without a throw on object " + object, called, 60);
+            check.due("throws on object " + object, thrown ? 1 : 0, 0);
+            check.due("too many calls of object " + object, calls > 512 ? calls : 0, 0);
         }
         check.close();
     }
 
-    private static void callSomething(ProgramRuns x, Random random) {
+    /** How many calls it made. */
+    private static int callSomething(ProgramRuns x, Random random) {
         int a = EDGES[random.nextInt(EDGES.length)];
         int b = EDGES[random.nextInt(EDGES.length)];
         switch (random.nextInt(12)) {
@@ -69,22 +74,24 @@ public final class AnyCallsTest {
                 x.place(a, b);
                 break;
             default:
-                endAndAsk(x, random);
-                break;
+                return endAndAsk(x, random);
         }
+        return 1;
     }
 
-    private static void endAndAsk(ProgramRuns x, Random random) {
+    private static int endAndAsk(ProgramRuns x, Random random) {
         StringBuilder text = new StringBuilder("fun f(a){return a;}fun m(){var x;var t[4];");
         for (int pieces = random.nextInt(8); pieces > 0; pieces--) {
             text.append(PIECES[random.nextInt(PIECES.length)]);
         }
         Check.end(x, text.append(random.nextInt(4) > 0 ? "}" : "").toString());
         x.run(2000);
-        for (int p = -1; p <= x.points(); p++) {
+        int points = x.points();
+        for (int p = -1; p <= points; p++) {
             for (int what = -1; what <= 5; what++) {
                 x.point(p, what);
             }
         }
+        return text.length() / 20 + 4 + 7 * (points + 2);
     }
 }

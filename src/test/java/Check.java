@@ -56,22 +56,30 @@ final class Check {
 
     /** The fault lies where the @ is, which is not part of the text. */
     void fault(String marked) {
-        amiss(1, 0, marked);
+        faultAt(marked.indexOf('@'), marked.replace("@", ""));
+    }
+
+    void faultAt(int place, String text) {
+        amiss(1, 0, place, text);
     }
 
     /** That is wrong, where the @ is, which is not part of the text. */
     void wrong(int what, String marked) {
-        amiss(2, what, marked);
+        amiss(2, what, marked.indexOf('@'), marked.replace("@", ""));
     }
 
-    private void amiss(int answer, int what, String marked) {
-        int place = marked.indexOf('@');
+    private void amiss(int answer, int what, int place, String text) {
         ProgramRuns x = new ProgramRuns();
-        String name = brief(marked);
-        due("end of " + name, end(x, marked.replace("@", "")), answer);
+        String name = brief(text);
+        due("end of " + name, end(x, text), answer);
         due("told(0) of " + name, x.told(0), what);
         due("told(1) of " + name, x.told(1), place);
         due("points() of " + name, x.points(), 1);
+    }
+
+    /** It is a program, or something is wrong with it. */
+    void noFault(String text) {
+        due("a fault of " + brief(text), end(new ProgramRuns(), text) == 1 ? 1 : 0, 0);
     }
 
     void right(String text) {

@@ -13,6 +13,7 @@ public final class CallEdgesTest {
         theHighestByteFirst();
         eightThousandBytes();
         refusedFeedsChangeNothing();
+        atTheFarEndOfTheBytes();
         theFirstBytesAreTheText();
         allBytesAreGone();
         refusedEndsChangeNothing();
@@ -29,6 +30,7 @@ public final class CallEdgesTest {
         runsFromTheBeginning();
         noRunSinceTheLatestEnd();
         whatOfARun();
+        asManyCallsAsThereMayBe();
         CHECK.close();
     }
 
@@ -113,6 +115,18 @@ public final class CallEdgesTest {
         }
         CHECK.due("8000 bytes", x.end(8000), 0);
         CHECK.due("their points", x.points(), 7);
+    }
+
+    private static void atTheFarEndOfTheBytes() {
+        int before = 8000 - PROGRAM.length();
+        CHECK.fault(" ".repeat(before) + "@#" + PROGRAM.substring(1));
+        CHECK.fault(" ".repeat(before) + PROGRAM.substring(0, PROGRAM.length() - 1) + "@#");
+        CHECK.fault(" ".repeat(before + 1) + PROGRAM.substring(0, PROGRAM.length() - 1) + "@");
+        CHECK.wrong(1, "fun m(){" + " ".repeat(7986) + "@x=1; }");
+        ProgramRuns x = CHECK.program(" ".repeat(before) + PROGRAM, -1);
+        CHECK.due("place of the first statement", x.point(0, 1), before + PROGRAM.indexOf("var x"));
+        CHECK.due("place of the last statement", x.point(5, 1), before + PROGRAM.indexOf("assert"));
+        CHECK.due("its run", x.run(2000), 0);
     }
 
     /** Promise 3: "The first n bytes are a text". */
@@ -398,5 +412,23 @@ public final class CallEdgesTest {
                 CHECK.due("ran(" + what + ")", x.ran(what), -1);
             }
         }
+    }
+
+    /** "An object is used for at most 512 calls": so the 512th answers as the first ones do. */
+    private static void asManyCallsAsThereMayBe() {
+        ProgramRuns x = new ProgramRuns();
+        for (int round = 0; round < 56; round++) {
+            String text = "fun m(){var x=" + (100 + round) + ";x=any;}";
+            CHECK.due("round " + round + ": input", x.input(round), round + 1);
+            CHECK.due("round " + round + ": end", Check.end(x, text), 0);
+            CHECK.due("round " + round + ": run", x.run(1), 16);
+            CHECK.due("round " + round + ": value", x.value(0), 100 + round);
+            CHECK.due("round " + round + ": ran", x.ran(1), 1);
+            CHECK.due("round " + round + ": points", x.points(), 3);
+            CHECK.due("round " + round + ": told", x.told(0), 0);
+        }
+        // Each round has two feeds, so these are calls 505 to 512.
+        answers("the last calls", 1, x.ran(0), x.ran(1), x.point(0, 0), x.point(1, 2), x.points() - 2, x.run(1) - 15, x.ran(0));
+        CHECK.due("the 512th call", x.drop(), 56);
     }
 }

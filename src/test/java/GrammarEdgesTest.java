@@ -18,6 +18,8 @@ public final class GrammarEdgesTest {
     private static final String RELATIONS = "< <= > >= == !=";
     private static final String BEHIND_TEST = "&& ||";
     private static final String STATEMENTS = "var x if while assert return }";
+    // With what is behind a token, it could be taken for another statement than it begins.
+    private static final String[] BEHIND = {"", " x ( 7 ) ; }", " = x ( ) ; }", " [ 7 ] = 7 ; }", " 7 ; }", " < 7 ) { } }", " ; } #"};
     private static final Check CHECK = new Check();
 
     public static void main(String[] args) {
@@ -45,8 +47,10 @@ public final class GrammarEdgesTest {
             String text = front + " " + token;
             if (those.contains(token)) {
                 endsAt(text);
-            } else {
-                CHECK.faultAt(front.length() + 1, text);
+                continue;
+            }
+            for (String behind : BEHIND) {
+                CHECK.faultAt(front.length() + 1, text + behind);
             }
         }
         for (String none : new String[] {"#", "&", "|", "\0", "\u0080", "\u00ff", "'", "01", "2147483648", "7x"}) {

@@ -31,7 +31,9 @@ public final class RunEdgesTest {
         allPlaces();
         slotsThatAreGone();
         beforeTheStatementWithATrap();
+        returnsWithAName();
         returnsWithoutAName();
+        slotsOfOneFunction();
         CHECK.close();
     }
 
@@ -364,11 +366,7 @@ public final class RunEdgesTest {
 
     /** "0 when there is none such": slots in front of the first and behind the last one. */
     private static void allSlots() {
-        StringBuilder text = new StringBuilder("fun m(){");
-        for (int i = 0; i < 12; i++) {
-            text.append("var v").append(i).append('=').append(100 + i).append(';');
-        }
-        ProgramRuns x = CHECK.program(text + "v0=0;}");
+        ProgramRuns x = CHECK.program("fun m(){" + numbered(12) + "v0=0;}");
         for (int steps = 0; steps <= 13; steps++) {
             x.run(steps);
             for (int slot = -2; slot <= 14; slot++) {
@@ -459,17 +457,55 @@ public final class RunEdgesTest {
         CHECK.due("return: its function's variable", returned.value(2), 4);
     }
 
+    /** "what returns goes to the NAME in front, if there is one": to its slot, and to no other. */
+    private static void returnsWithAName() {
+        for (int target = 0; target < 12; target++) {
+            ProgramRuns x = CHECK.program("fun f(){return 77;}fun m(){" + numbered(12) + "v" + target + "=f();v0=0;}");
+            CHECK.due("to v" + target, x.run(14), 16);
+            for (int slot = 0; slot < 12; slot++) {
+                CHECK.due("to v" + target + ": value(" + slot + ")", x.value(slot), slot == target ? 77 : 100 + slot);
+            }
+        }
+    }
+
     /** "(without one it goes nowhere; the return is a point and a step all the same)". */
     private static void returnsWithoutAName() {
-        ProgramRuns x = CHECK.program("fun f(a){return a+1;}fun m(){var x=1;var y=2;f(x);y=f(y);x=f(y);x=x;}");
-        CHECK.due("points", x.points(), 10);
-        CHECK.due("the return of a call without a NAME", x.point(3, 0), 8);
-        x.run(4);
-        CHECK.due("x", x.value(0), 1);
-        CHECK.due("y", x.value(1), 2);
-        stands("it is a step", x, 4, 4, 0);
-        x.run(8);
-        CHECK.due("x with a NAME", x.value(0), 4);
-        CHECK.due("y with a NAME", x.value(1), 3);
+        for (int count = 0; count <= 12; count++) {
+            ProgramRuns x = CHECK.program("fun f(){return 77;}fun m(){" + numbered(count) + "f();if(1<2){}}");
+            CHECK.due("its point", x.point(count + 1, 0), 8);
+            CHECK.due("a call without a NAME", x.run(count + 2), 16);
+            stands("it is a step", x, count + 2, count + 2, 0);
+            for (int slot = 0; slot < 12; slot++) {
+                CHECK.due("nowhere: value(" + slot + ")", x.value(slot), slot < count ? 100 + slot : 0);
+            }
+        }
+    }
+
+    private static String numbered(int count) {
+        StringBuilder text = new StringBuilder();
+        for (int i = 0; i < count; i++) {
+            text.append("var v").append(i).append('=').append(100 + i).append(';');
+        }
+        return text.toString();
+    }
+
+    /** Slots of a function's BLOCKs, wherever it is called: with other numbers and other arrays there. */
+    private static void slotsOfOneFunction() {
+        StringBuilder text = new StringBuilder("fun g(p){var a=p;var s[1];if(0<1){var b=a+1;var t[2];t[0]=b;"
+                + "while(b<p+3){var c=b;b=c+1;t[1]=b;}s[0]=t[1]+t[0];}else{}return s[0];}fun m(){var r;");
+        for (int numbers = 0; numbers <= 7; numbers += 3) {
+            for (int arrays = 0; arrays <= 4; arrays += 2) {
+                text.append("if(0<1){").append(numbered(numbers));
+                for (int i = 0; i < arrays; i++) {
+                    text.append("var t").append(i).append("[3];t").append(i).append("[2]=9;");
+                }
+                int p = 10 * numbers + arrays;
+                text.append("r=g(").append(p).append(");assert(r==").append(2 * p + 4);
+                text.append(numbers > 0 ? "&&v" + (numbers - 1) + "==" + (99 + numbers) : "");
+                text.append(arrays > 0 ? "&&t" + (arrays - 1) + "[2]==9" : "").append(");}");
+            }
+        }
+        ProgramRuns x = CHECK.program(text + "}");
+        CHECK.due("one function in many places", x.run(2000), 0);
     }
 }

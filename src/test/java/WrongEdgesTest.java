@@ -8,6 +8,7 @@ public final class WrongEdgesTest {
     public static void main(String[] args) {
         meantFromBehindItsStatement();
         meantUpToTheEndOfItsBlock();
+        withinAFunctionOnlyItsOwn();
         theInnermostLatestOne();
         anotherOneInTheSameBlock();
         parametersInTheSameBlock();
@@ -22,6 +23,7 @@ public final class WrongEdgesTest {
         twelveNumbers();
         twelveNumbersInCalls();
         sixArrays();
+        statementsWithoutVariables();
         pointsAtTheEdge();
         pointsOfPutInFunctions();
         parametersOfTheProgramComeFirst();
@@ -104,6 +106,23 @@ public final class WrongEdgesTest {
         CHECK.right("fun f(a){if(1<2){}a=1;}fun m(){f(1);}");
         CHECK.wrong(1, "fun f(){@x=1;}fun m(){var x;x=1;f();}");
         CHECK.wrong(1, "fun g(){@a=1;}fun f(a){g();}fun m(){f(1);}");
+    }
+
+    /** "Within a function only its own are.": in its BLOCK and in those within it. */
+    private static void withinAFunctionOnlyItsOwn() {
+        String[] functions = {"fun f(){~}", "fun f(){if(1<2){~}}", "fun f(){while(1<2){if(1<2){}else{~}}}", "fun f(){if(1<2){}~}"};
+        for (String function : functions) {
+            for (int numbers = 0; numbers <= 3; numbers++) {
+                for (int arrays = 0; arrays <= 3; arrays++) {
+                    String program = "fun m(){" + vars(numbers) + arrays(arrays) + "f();}";
+                    CHECK.wrong(1, function.replace("~", "@v0=1;") + program);
+                    CHECK.wrong(1, function.replace("~", "@v2=1;") + program);
+                    CHECK.wrong(1, function.replace("~", "var x=@t0[0];") + program);
+                    CHECK.wrong(1, function.replace("~", "@t2[0]=1;") + program);
+                    CHECK.right(function.replace("~", "var v0;v0=1;var t0[1];t0[0]=v0;if(1<2){v0=t0[0];}") + program);
+                }
+            }
+        }
     }
 
     private static void theInnermostLatestOne() {
@@ -320,18 +339,26 @@ public final class WrongEdgesTest {
         CHECK.wrong(13, "fun g(){@var x[1];}fun f(){var x[1];g();}fun m(){" + arrays(5) + "f();}");
     }
 
+    /** With 12 numbers and 6 arrays there, a statement that brings none is right. */
+    private static void statementsWithoutVariables() {
+        for (String statement : new String[] {"v0=1;", "v0=(1);", "v11=t5[0];", "t5[0]=1;", "t0[v11]=v0;", "f();", "v0=g();", "g();",
+                "if(1<2){}", "if([1<2]){}else{}", "while([1<2]){}", "while(1<2){}", "assert([1<2]);", "assert(!1<2);", "f();g();f();"}) {
+            CHECK.right("fun f(){}fun g(){return 1;}fun m(){" + vars(12) + arrays(6) + statement + "}");
+            CHECK.right("fun f(){}fun g(){return 1;}fun m(){" + arrays(6) + vars(12) + "if(1<2){" + statement + "}}");
+        }
+    }
+
     /** 11, "more than 250 points, the end too": for each statement as the 249th and the 250th. */
     private static void pointsAtTheEdge() {
-        String fill = "var x;var t[2];" + "x=1;".repeat(246);
-        for (String last : new String[] {"var y;", "var y=1;", "var u[1];", "x=2;", "t[0]=1;", "f();", "x=g();", "if(1<2){}",
+        String fill = "fun f(){}fun g(){return 1;}fun m(){var x;var t[2];" + "x=1;".repeat(246);
+        for (String last : new String[] {"var y;", "var y=1;", "var u[1];", "x=2;", "t[0]=1;", "f();", "if(1<2){}",
                 "if(1<2){}else{}", "while(1<2){}", "assert(1<2);"}) {
-            String functions = "fun f(){}fun g(){return 1;}fun m(){";
-            if (!last.equals("x=g();")) {
-                ProgramRuns x = CHECK.program(functions + fill + last + "}");
-                CHECK.due("points with 249 statements", x.points(), 250);
-            }
-            CHECK.wrong(11, functions + fill + "x=3;@" + last + "}");
+            ProgramRuns x = CHECK.program(fill + last + "}");
+            CHECK.due("points with 249 statements", x.points(), 250);
+            CHECK.wrong(11, fill + "x=3;@" + last + "}");
         }
+        CHECK.wrong(11, fill + "x=3;@x=g();}");
+        CHECK.wrong(11, fill + "x=3;@g();}");
         right("x=1;".repeat(248).replaceFirst("x=1;", "var x;") + "if(1<2){}");
         wrong(11, "var x;" + "x=1;".repeat(247) + "if(1<2){@x=1;}");
         wrong(11, "var x;" + "x=1;".repeat(247) + "if(1<2){}else{@x=1;}");

@@ -18,6 +18,7 @@ public final class RunEdgesTest {
         inputsThatThereAreNoMore();
         inputsBetweenLimits();
         conditionsThatMatter();
+        relationsWhereverTheyStand();
         assertsThatDoNotHold();
         beginningEachTime();
         stepsUpToTheEnd();
@@ -230,6 +231,38 @@ public final class RunEdgesTest {
             CHECK.due(cond + " with " + parts[0], x.run(1), parts[1].equals("1") ? 0 : 8);
             CHECK.due(cond + " takes of " + parts[0], x.ran(2), Integer.parseInt(parts[2]));
         }
+    }
+
+    /** A RELATION of less, equal and more, as the whole COND and as a part of it. */
+    private static void relationsWhereverTheyStand() {
+        String[] relations = {"<", "<=", ">", ">=", "==", "!="};
+        String[] same = {"~", "[~]", "!!~", "~&&1<2", "1<2&&~", "~||2<1", "2<1||~", "[2<1||~]&&[1<2&&~]", "~&&~&&~", "~||~||~"};
+        String[] other = {"!~", "![~]", "!~&&1<2", "1<2&&!~", "!~||2<1", "2<1||!!!~", "![~||2<1]", "![1<2&&~]"};
+        int[][] pairs = {{LEAST, GREATEST}, {-1, 0}, {4, 5}, {LEAST, LEAST}, {0, 0}, {GREATEST, GREATEST}, {5, 4}, {0, -1}, {GREATEST, LEAST}};
+        for (int[] pair : pairs) {
+            int order = Integer.compare(pair[0], pair[1]);
+            boolean[] due = {order < 0, order <= 0, order > 0, order >= 0, order == 0, order != 0};
+            for (int i = 0; i < relations.length; i++) {
+                for (String cond : same) {
+                    holds(due[i], cond.replace("~", "a" + relations[i] + "b"), pair);
+                }
+                for (String cond : other) {
+                    holds(!due[i], cond.replace("~", "a" + relations[i] + "b"), pair);
+                }
+            }
+        }
+    }
+
+    private static void holds(boolean due, String cond, int[] inputs) {
+        ProgramRuns x = CHECK.program("fun m(){var a=any;var b=any;if(" + cond + "){a=0;}else{a=0;}}", inputs);
+        String name = cond + " of " + inputs[0] + " and " + inputs[1];
+        x.run(3);
+        CHECK.due("if, " + name, x.ran(0), due ? 3 : 4);
+        ProgramRuns y = CHECK.program("fun m(){var a=any;var b=any;while(" + cond + "){a=0;}}", inputs);
+        y.run(3);
+        CHECK.due("while, " + name, y.ran(0), due ? 3 : 4);
+        ProgramRuns z = CHECK.program("fun m(){var a=any;var b=any;assert(" + cond + ");}", inputs);
+        CHECK.due("assert, " + name, z.run(3), due ? 0 : 8);
     }
 
     /** "An assert that does not hold is trap 8." */

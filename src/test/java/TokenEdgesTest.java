@@ -1,6 +1,6 @@
 import java.util.Locale;
 
-/** What the Terms say of TOKENS, at its edges. Each method holds the sentence that it quotes. */
+/** What the Terms say of TOKENS, at its edges; a method holds the sentence that it quotes. */
 public final class TokenEdgesTest {
     private static final int BYTES = 256;
     private static final String THIRTY = "abcdefghijklmnopqrstuvwxyz_019";
